@@ -204,6 +204,10 @@ public final class PromisesTest {
         value("let a be 2 in let b be a+1 in a*b end+let b be 5 in b end end", 11);
         value("let a be let a be 4 in a+1 end in a end", 5);
         value("let z be done in z/4 end", 25);
+        value("(((((let a be 2 in let b be 3 in let c be 5 in a*b*c end end end)))))", 30);
+        value("if 2>=2 and 1<=1 and 3>2 and 2<3 and 1=1 and 1#2 then 4 else 5 end", 4);
+        value("if not 2>=2 or not 1<=1 or not 3>2 or not 2<3 or not 1=1 or not 1#2 then 4 else 5 end", 5);
+        value("if not 2>2 and not 2<2 and not 2#2 and not 2=3 and not 2>=3 and not 3<=2 then 4 else 5 end", 4);
         value("size", 0);
         value("place+kind*10+here*20", 30);
         value("((((((((8))))))))", 8);
@@ -248,6 +252,10 @@ public final class PromisesTest {
         fault("pace pace;", 1, 5);
         fault("pace to;", 1, 5);
         fault("pace Q;", 1, 5);
+        fault("pace aA;", 1, 5);
+        fault("pace zZ;", 1, 5);
+        fault("pace a0;", 5, 5);
+        fault("pace [;", 1, 5);
         fault("pace ();", 1, 6);
         fault("pace 1 2;", 1, 7);
         fault("pace 1 10000;", 1, 7);
@@ -870,7 +878,9 @@ public final class PromisesTest {
         due("a stretch that isn't one", x.whom(7, 2, 9), NONE);
         due("stretch -2", x.whom(7, 2, -2), NONE);
         due("people that aren't", x.whom(8, 2, NONE), NONE);
+        due("some that are", x.whom(9, 2, NONE), NONE);
         due("stretches that aren't", x.whom(7, 1 << 9, NONE), NONE);
+        due("some that are", x.whom(7, 1 << 9 | 2, NONE), NONE);
         due("below 0", x.whom(-1, 2, NONE), NONE);
         due("below 0", x.whom(7, -1, NONE), NONE);
         x = row(8);

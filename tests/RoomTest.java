@@ -67,7 +67,7 @@ public final class RoomTest {
         return ((com.sun.management.ThreadMXBean) ManagementFactory.getThreadMXBean()).getCurrentThreadAllocatedBytes();
     }
 
-    /** What one new object takes, in bytes of this machine: some forty arrays, nine thousand elements. */
+    /** What one new object takes, in bytes of this machine: some hundred objects, six thousand elements. */
     private static long sizeOfOne() {
         long before = made();
         ElevenBullocks x = new ElevenBullocks();

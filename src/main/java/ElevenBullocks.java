@@ -413,7 +413,8 @@ public final class ElevenBullocks {
     }
 
     public boolean mending(int way, int o, int p, int h, int n) {
-        boolean right = land.hasGate(way) && within(o, 0, 10) && within(p, 0, 999) && within(h, 0, 999) && within(n, 1, 99);
+        boolean right = land.hasGate(way) && within(o, 0, 10) && within(p, 0, 999);
+        right = right && within(h, 0, 999) && within(n, 1, 99);
         if (right) {
             notes.savedBy[way] = h * o * n / 10 - p;
         }
@@ -1922,7 +1923,7 @@ public final class ElevenBullocks {
             met[queue[0]] = 1;
             int count = 1;
             int places = 0;
-            for (int i = 0; i < count; i++) {
+            for (int i = 0; i < count && i < STANDS; i++) {
                 places |= 1 << queue[i] / FROMS;
                 count = goFrom(queue[i], count);
             }
@@ -2036,9 +2037,11 @@ public final class ElevenBullocks {
             for (int i = 0; i < land.countWaysAt(place); i++) {
                 int way = land.wayAt(place, i);
                 int chance = chanceOf(way, place, from % FROMS - 1);
-                long taken = left / 10 * chance;
-                then[land.otherSide(way, place) * FROMS + place + 1] += taken;
-                left -= taken;
+                if (chance > 0) {
+                    long taken = left / 10 * chance;
+                    then[land.otherSide(way, place) * FROMS + place + 1] += taken;
+                    left -= taken;
+                }
             }
             then[from] += left;
         }
