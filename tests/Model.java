@@ -997,6 +997,9 @@ final class Model {
             return NONE;
         }
         List<Integer> goals = listOf(stretches);
+        if (goals.isEmpty()) {
+            return NONE;
+        }
         List<List<Integer>> all = new ArrayList<>();
         if (goals.size() <= Integer.bitCount(people)) {
             orders(listOf(people), goals.size(), new ArrayList<>(), all);

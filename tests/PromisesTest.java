@@ -870,7 +870,10 @@ public final class PromisesTest {
         due("of like ones the lowest", x.whom(7, 1 << 3 | 1 << 5, 3), 1);
         due("then the next", x.whom(7, 1 << 3 | 1 << 5, 5), 2);
         due("all three", x.whom(7, 7, NONE), 2);
-        due("none to be sent", x.whom(7, 0, NONE), 0);
+        due("no stretch, so no last one", x.whom(7, 0, NONE), NONE);
+        due("nor anybody for one", x.whom(7, 0, 1), NONE);
+        due("no stretch and nobody", x.whom(0, 0, NONE), NONE);
+        due("nobody for a stretch", x.whom(0, 2, NONE), NONE);
         due("more stretches than people", x.whom(3, 7, NONE), NONE);
         due("one that can't be come to", x.whom(7, 1 << 8, NONE), NONE);
         due("nor who", x.whom(7, 1 << 8, 8), NONE);

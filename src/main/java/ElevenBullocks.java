@@ -336,7 +336,8 @@ public final class ElevenBullocks {
     }
 
     public int whom(int people, int stretches, int stretch) {
-        if (!within(people, 0, (1 << land.people) - 1) || !within(stretches, 0, (1 << land.stretches) - 1)) {
+        // Without a stretch nobody is sent: there is no last one, and so no minutes.
+        if (!within(people, 0, (1 << land.people) - 1) || !within(stretches, 1, (1 << land.stretches) - 1)) {
             return NONE;
         }
         if (stretch != NONE && (!land.hasStretch(stretch) || (stretches >> stretch & 1) == 0)) {
