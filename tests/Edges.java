@@ -1,6 +1,8 @@
 import java.io.IOException;
 import java.nio.file.Files;
 import java.nio.file.Path;
+import java.util.HashSet;
+import java.util.Set;
 import java.util.function.Supplier;
 
 /**
@@ -10,6 +12,7 @@ import java.util.function.Supplier;
 final class Edges {
     static final int NONE = -1;
     private static final String DOCUMENT = squeezed(document());
+    private static final Set<String> TOLD = new HashSet<>();
     private static int wrong;
     private static int count;
     private static String words = "";
@@ -42,6 +45,7 @@ final class Edges {
     /** A sentence of the document, or the part of it that names an edge, and the test of its own. */
     static void edge(String ofDocument, Runnable test) {
         words = ofDocument;
+        TOLD.add(squeezed(ofDocument));
         count++;
         if (!DOCUMENT.isEmpty() && !DOCUMENT.contains(squeezed(ofDocument))) {
             complain("these are not the document's words");
@@ -203,6 +207,18 @@ final class Edges {
 
     static int anew(int x) {
         return (x * 239 + 137) % 30203;
+    }
+
+    /** Each promise of the document must be the name of an edge: so none is left out, and none is left as it was. */
+    static void allPromises() {
+        String[] parts = DOCUMENT.split("## Promise \\d+: ");
+        for (int i = 1; i < parts.length; i++) {
+            String told = parts[i].substring(parts[i].indexOf("`: ") + 3).replaceAll(" ## .*", "").trim();
+            if (!TOLD.contains(told)) {
+                words = told;
+                complain("promise " + i + " has no test of its edges");
+            }
+        }
     }
 
     static void end() {

@@ -18,6 +18,13 @@ public final class EdgesOfAnswersTest {
         Edges.due(what + ", lower", x.where(0, n, stretch, true), lower);
     }
 
+    /** A row of three of these kinds, and a bunch at 1 that CAME from 0; then the text rules. */
+    private static ElevenBullocks came(String text, int... kinds) {
+        ElevenBullocks x = Edges.ruled(strayed(Edges.row(kinds), 0), "takes 10;");
+        x.minute(1);
+        return Edges.ruled(x, text);
+    }
+
     /** A lane in the middle, 0, with a gate to each of 1 .. 4, which are of these kinds. */
     private static ElevenBullocks star(int... kinds) {
         ElevenBullocks x = Edges.stretches(0);
@@ -55,6 +62,34 @@ public final class EdgesOfAnswersTest {
             odds("for certain", x, 3, 1, 1, 1);
             odds("for certain not", x, 3, 0, 0, 1);
         });
+        Edges.edge("WHERE a BUNCH is behind n MOVES", () -> {
+            ElevenBullocks x = strayed(Edges.ruled(Edges.lanes(3), "takes if back=1 then 1 else 8 end;"), 2);
+            odds("on, with 8", x, 1, 1, 4, 5);
+            odds("on twice", x, 2, 0, 16, 25);
+            // stays twice, 1/5 * 1/5, or is back: 4/5 * 2/10 * 1/10
+            odds("there still, or again", x, 2, 2, 7, 125);
+            ElevenBullocks y = came("takes if back=1 then 1 else 8 end;", 0, 0, 0);
+            odds("from where it CAME: back with 1", y, 1, 0, 1, 10);
+            odds("on with 8, if not back", y, 1, 2, 18, 25);
+            ElevenBullocks z = Edges.ruled(Edges.lanes(3), "takes place*size;");
+            z.stray(5, 1);
+            z.stray(2, 1);
+            odds("of the first, by its SIZE", z, 2, 0, 5, 8);
+            odds("which stays with a half of a half, or is back from 2", z, 2, 1, 5, 16);
+            Edges.due("of the second, by its own", z.where(1, 1, 0, true), 5);
+            Edges.due("upper", z.where(1, 1, 0, false), 1);
+            odds("of the first again", z, 2, 0, 5, 8);
+            ElevenBullocks ring = Edges.ruled(Edges.lanes(3),
+                "takes if back=1 or place=1 and way=0 then 0 else 10 end;");
+            ring.way(2, 0, false);
+            strayed(ring, 1);
+            odds("round, and by a WAY from its one side alone", ring, 3, 1, 1, 1);
+            odds("and on", ring, 4, 2, 1, 1);
+            ElevenBullocks u = strayed(Edges.ruled(Edges.lanes(2), "takes 1;"), 0);
+            odds("1 of 10", u, 1, 1, 1, 10);
+            odds("9 of 10", u, 1, 0, 9, 10);
+            odds("the last: 1 - (1 + .8 ^ 4) / 2", u, 4, 1, 369, 1250);
+        });
         Edges.edge("STRETCHES (bits) a BUNCH can come to by MOVES (where it is, too)", () -> {
             Edges.due("without ways", strayed(Edges.stretches(0, 0), 1).canCome(0), 2);
             Edges.due("all twelve", strayed(Edges.lanes(12), 5).canCome(0), 4095);
@@ -76,6 +111,20 @@ public final class EdgesOfAnswersTest {
             Edges.due("somebody stands there now", x.canCome(0), 11);
             x.send(0, 0);
             Edges.due("SENT elsewhere, but there now", x.canCome(0), 11);
+            Edges.due("not back, but on", came("takes if back=1 then 0 else 5 end;", 0, 0, 0).canCome(0), 6);
+            Edges.due("back and no further", came("takes 5*back;", 0, 0, 0).canCome(0), 3);
+            Edges.due("it CAME from none", strayed(Edges.ruled(Edges.lanes(3), "takes 5*back;"), 1).canCome(0), 2);
+            ElevenBullocks y = star(2, 1, 3);
+            Edges.due("all", y.canCome(0), 15);
+            Edges.due("stopped by one at the road", y.stopped(0, 9), 2);
+            Edges.due("nobody is there, though", y.canCome(0), 15);
+            Edges.due("two to shut", y.home(0), 3);
+            Edges.due("they are open, though", y.canCome(0), 15);
+            y.stray(9, 0);
+            Edges.ruled(y, "takes if size<9 then 0 else 5 end;");
+            Edges.due("too few", y.canCome(0), 1);
+            Edges.due("by its own SIZE", y.canCome(1), 15);
+            Edges.due("too few, as before", y.canCome(0), 1);
         });
     }
 
@@ -104,6 +153,13 @@ public final class EdgesOfAnswersTest {
             Edges.due("9 more than 3", x.stopped(0, 9), 2);
             Edges.due("8 more than 3", x.stopped(0, 8), NONE);
             Edges.due("on a road", strayed(Edges.row(2, 0), 0).stopped(0, 9), NONE);
+            Edges.due("a road behind it, and it does not go back",
+                came("takes if back=1 or stood>0 then 0 else 5 end;", 2, 0, 0).stopped(0, 1), 0);
+            Edges.due("it goes back alone: somebody on the road",
+                came("takes if stood>0 then 0 else 5*back end;", 2, 0, 2).stopped(0, 1), 1);
+            ElevenBullocks y = strayed(Edges.ruled(Edges.row(0, 0, 2), "takes if here=1 then 0 else 5 end;"), 0);
+            Edges.due("somebody more is here, too", y.stopped(0, 0), 2);
+            Edges.due("but not for what is asked then", y.canCome(0), 7);
         });
         Edges.edge("such that it can come to no road: the fewest; of like ones the lowest set (bits); none.", () -> {
             ElevenBullocks x = strayed(Edges.row(0, 0, 0, 2), 0);
@@ -207,6 +263,9 @@ public final class EdgesOfAnswersTest {
             Edges.due("on a road", strayed(Edges.row(3, 2), 1).home(0), NONE);
             Edges.due("at home", strayed(Edges.row(3, 1), 0).home(0), 1);
             Edges.due("at home, shut off", strayed(Edges.stretches(3, 1), 0).home(0), 0);
+            Edges.due("home behind it, and it does not go back",
+                came("takes if back=1 then 0 else 5 end;", 3, 0, 1).home(0), NONE);
+            Edges.due("it goes back alone", came("takes 5*back;", 3, 0, 1).home(0), 0);
         });
         Edges.edge("no garden and no road: the fewest; of like ones the lowest set (bits); none.", () -> {
             // to the garden by two gates one behind the other: the lower will do
@@ -330,6 +389,9 @@ public final class EdgesOfAnswersTest {
             Edges.due("no fifth", x.after(0, 4), NONE);
             ElevenBullocks y = person(strayed(Edges.lanes(4), 3), true, 0);
             Edges.due("on WHEELS", y.after(0, NONE), 2);
+            person(y, false, 0);
+            Edges.due("on foot", y.after(1, NONE), 3);
+            Edges.due("on WHEELS again", y.after(0, NONE), 2);
         });
         Edges.edge("of like ones the lowest first BUNCH, then the second, ..: that HARM, the i-th BUNCH", () -> {
             ElevenBullocks x = person(strayed(strayed(Edges.lanes(5), 4), 0), false, 2);
@@ -519,6 +581,9 @@ public final class EdgesOfAnswersTest {
         Edges.edge("X mod 5: 0 a GATE: WAY X mod how many there are is SHUT, or OPENED, if it is SHUT (if it isn't a PATH)",
             () -> {
             // seed 3 makes X 50, seed 8 makes it 65
+            ElevenBullocks one = Edges.lanes(2);
+            one.day(3, 1);
+            Edges.due("the one there is", one.ofWay(0, 3), 0);
             ElevenBullocks x = Edges.lanes(4);
             x.day(3, 1);
             Edges.due("50 mod 3: SHUT", x.ofWay(2, 3), 0);
@@ -602,6 +667,45 @@ public final class EdgesOfAnswersTest {
             Edges.due("the tape stays", y.about(12), 40);
             Edges.due("the latest FAULT stays", y.fault(0), 2);
             Edges.due("and its place", y.fault(1), 5);
+        });
+        Edges.edge("BACK: all is so again.", () -> {
+            ElevenBullocks x = came("takes 10;", 3, 0, 0);
+            x.seen(1, 0);
+            x.seen(2, 1);
+            x.tried(0, true);
+            x.image();
+            x.seen(NONE, 0);
+            x.seen(2, 0);
+            x.seen(2, 0);
+            x.tried(NONE, true);
+            x.tried(0, false);
+            x.minute(1);
+            x.way(0, 2, true);
+            x.way(0, 2, true);
+            x.person(1, false, false, 0);
+            Edges.due("a way of one", x.soon(0, 2), 1);
+            x.back();
+            Edges.due("CAME", x.bunch(0, 2), 0);
+            Edges.due("SEEN at 1 in 0 and at 2 in 1", x.which(), 1);
+            Edges.due("turned", x.turned(0, false), 1);
+            x.person(1, false, false, 0);
+            Edges.due("a way of two", x.soon(0, 2), 2);
+            Edges.due("two WAYS", x.about(1), 2);
+            for (int w = 2; w < 5; w++) {
+                Edges.due("three more at 0", x.way(0, 2, false), w);
+            }
+            Edges.due("a fifth at 0", x.way(0, 1, false), NONE);
+            Edges.due("WAYS at 0", x.ofStretch(0, 3), 1 | 4 | 8 | 16);
+            x.back();
+            Edges.due("WAYS at 0", x.ofStretch(0, 3), 1);
+            x.undo();
+            x.person(1, false, false, 2);
+            x.minute(1);
+            x.back();
+            x.person(1, false, false, 2);
+            x.undo();
+            Edges.due("told since that STEP of THE IMAGE", x.ofPerson(0, 3), 2);
+            Edges.due("its minute", x.about(3), 0);
         });
     }
 

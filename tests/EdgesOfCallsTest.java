@@ -161,6 +161,27 @@ public final class EdgesOfCallsTest {
         return x;
     }
 
+    /** One with a FAULT has clauses and laws that were read already: none of them is there in the next. */
+    private static void leavesNothing() {
+        ElevenBullocks x = bunches(2);
+        for (int i = 0; i < 3; i++) {
+            Texts.tell(x, "pace 2;takes " + "1+".repeat(140) + "$");
+            Texts.tell(x, "shut 0;".repeat(24) + "$");
+        }
+        Edges.due("an empty one", x.text(), 0);
+        Edges.due("no clauses", x.played(0), NONE);
+        Edges.due("nothing was done", x.ofWay(0, 3), 1);
+        x.by(0);
+        Edges.due("no pace", x.bunch(0, 3), 1);
+        Edges.due("no takes", x.takes(0, 0), 5);
+        Texts.tell(x, "pays " + "1+".repeat(140) + "$");
+        Texts.tell(x, "pays " + "1+".repeat(140) + "$");
+        x.by(Edges.tell(x, "takes " + "1+".repeat(6) + "0*" + "1*".repeat(100) + "1;" + "shut 0;"));
+        Edges.due("all of the next", x.takes(0, 0), 6);
+        Edges.due("its clauses", x.played(1), NONE);
+        Edges.due("done", x.ofWay(0, 3), 0);
+    }
+
     private static ElevenBullocks fed(int times) {
         ElevenBullocks x = new ElevenBullocks();
         for (int i = 0; i < times; i++) {
@@ -211,6 +232,7 @@ public final class EdgesOfCallsTest {
             Edges.due("no text", y.about(7), 3);
             Edges.due("its number is free still", Texts.tell(y, "pays 1;"), 3);
             Edges.due("empty then", y.about(12), 0);
+            leavesNothing();
             Edges.refused("a fifth of an empty tape", () -> texts(4), ElevenBullocks::text, NONE);
             Edges.refused("a fifth", () -> with(texts(4), z -> z.feed(0x70616365, 0x20313b20, 0x20202020, 0, 0)),
                 ElevenBullocks::text, NONE);
@@ -460,6 +482,11 @@ public final class EdgesOfCallsTest {
             Edges.asked("neither", EdgesOfCallsTest::twoAndTwo, x -> x.whom(0, 0, NONE), NONE);
             Edges.asked("neither, of a new one", ElevenBullocks::new, x -> x.whom(0, 0, NONE), NONE);
             Edges.asked("one that is not of the set", EdgesOfCallsTest::twoAndTwo, x -> x.whom(3, 1, 1), NONE);
+            Edges.asked("two that are and one that isn't", EdgesOfCallsTest::twoAndTwo, x -> x.whom(7, 1, NONE), NONE);
+            Edges.asked("one that is and one that isn't", EdgesOfCallsTest::twoAndTwo, x -> x.whom(5, 1, NONE), NONE);
+            Edges.asked("a STRETCH that is and one that isn't", EdgesOfCallsTest::twoAndTwo, x -> x.whom(3, 5, NONE),
+                NONE);
+            Edges.asked("who for the one that is", EdgesOfCallsTest::twoAndTwo, x -> x.whom(3, 5, 0), NONE);
         });
         Edges.edge("HOME (bits of WAYS). NONE: none, and for others.", () -> {
             questions("home", EdgesOfCallsTest::homeward, (x, a) -> x.home(a[0]), NONE, of(0), to(0, 1));
@@ -532,6 +559,7 @@ public final class EdgesOfCallsTest {
             Edges.asked("the last of four", () -> garden(3), ElevenBullocks::cheapest, 3);
             Edges.asked("the first of four", () -> garden(0), ElevenBullocks::cheapest, 0);
             Edges.asked("none is cheaper than without", () -> garden(4), ElevenBullocks::cheapest, NONE);
+            Edges.asked("at the last of twelve", EdgesOfCallsTest::lastGarden, ElevenBullocks::cheapest, 1);
         });
         Edges.edge("MENDING told: true. False for others.", () -> {
             ranges("mending", EdgesOfCallsTest::some, (x, a) -> Edges.n(x.mending(a[0], a[1], a[2], a[3], a[4])), 0,
@@ -554,7 +582,11 @@ public final class EdgesOfCallsTest {
             Edges.refused("a thirteenth", () -> tries(12), x -> x.tried(0, true), -2);
             Edges.due("none any more", tries(12).tried(NONE, true), 0);
             Edges.due("none any more, of none", tries(0).tried(NONE, false), 0);
-            Edges.due("anew", with(tries(12), x -> x.tried(NONE, true)).tried(3, false), 1);
+            ElevenBullocks y = tries(12);
+            y.tried(NONE, true);
+            Edges.due("anew", y.tried(1, false), 1);
+            Edges.due("what turned them is gone, too", y.turned(1, false), 0);
+            Edges.due("and the lower one", y.turned(1, true), 1);
         });
         Edges.edge("TURNED: the upper (low false), the lower one (low true). NONE for others, and if it wasn't TRIED.",
             () -> {
@@ -580,6 +612,15 @@ public final class EdgesOfCallsTest {
         for (int t = 0; t < 4; t++) {
             Edges.tell(x, t == cheap ? "pays 99;" : "pays 100;");
         }
+        return x;
+    }
+
+    private static ElevenBullocks lastGarden() {
+        ElevenBullocks x = Edges.stretches(0, 0, 0, 0, 0, 0, 0, 0, 0, 0, 0, 1);
+        x.stray(10, 11);
+        x.minute(1);
+        Edges.tell(x, "pays 90+10*(place-10);");
+        Edges.tell(x, "pays 90;");
         return x;
     }
 
@@ -641,6 +682,7 @@ public final class EdgesOfCallsTest {
         asked();
         paid();
         kept();
+        Edges.allPromises();
         Edges.end();
     }
 }

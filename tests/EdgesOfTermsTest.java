@@ -208,6 +208,25 @@ public final class EdgesOfTermsTest {
             y.minute(1);
             Edges.due("a way, since", y.ofPerson(0, 3), 1);
         });
+        Edges.edge("PEOPLE by number", () -> {
+            ElevenBullocks x = Edges.lanes(4);
+            x.minute(1);
+            for (int p = 0; p < 6; p++) {
+                x.person(0, p % 2 == 1, false, 0);
+                x.send(p, 3);
+            }
+            x.minute(1);
+            for (int p = 0; p < 6; p++) {
+                Edges.due("all six", x.ofPerson(p, 3), p % 2 == 1 ? 2 : 1);
+            }
+            for (int i = 0; i < 8; i++) {
+                x.undo();
+            }
+            for (int p = 0; p < 6; p++) {
+                Edges.due("all six as told", x.ofPerson(p, 3), 0);
+                Edges.due("SENT nowhere", x.ofPerson(p, 4), NONE);
+            }
+        });
         Edges.edge("(of like ones the lowest next STRETCH)", () -> {
             ElevenBullocks x = Edges.stretches(0, 0, 0, 0, 0);
             for (int next : new int[] {3, 1, 2}) {
@@ -255,6 +274,22 @@ public final class EdgesOfTermsTest {
             z.stray(1, 0);
             z.minute(1);
             Edges.due("people stand there then", z.bunch(0, 1), 0);
+            ElevenBullocks u = Edges.lanes(2);
+            u.stray(1, 0);
+            u.minute(1);
+            Edges.due("without a law: 1 is below 5", u.bunch(0, 1), 1);
+            u.minute(1);
+            Edges.due("6 is not", u.bunch(0, 1), 1);
+            ElevenBullocks v = ruledLanes(3, "pace 2;takes if here=1 and back=0 and place+way=0 then 10 else 0 end;");
+            v.person(9, false, false, 0);
+            v.stray(1, 0);
+            v.minute(1);
+            Edges.due("as law and people say", v.bunch(0, 1), 1);
+            v.by(Edges.tell(v, "pace 1;takes if back=1 then 10 else 0 end;"));
+            v.minute(1);
+            Edges.due("back", v.bunch(0, 1), 0);
+            v.minute(1);
+            Edges.due("and back again", v.bunch(0, 1), 1);
         });
         Edges.edge("pace (0 stands, 1 walks, 2 trots): so many MOVES, one behind the other", () -> {
             for (int pace = 0; pace < 3; pace++) {

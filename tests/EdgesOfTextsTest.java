@@ -65,6 +65,13 @@ public final class EdgesOfTextsTest {
             fault("pacE 1;", 1, 0);
             fault("PACE 1;", 1, 0);
             fault("pace azAZ;", 1, 5);
+            fault("pace aA;", 1, 5);
+            fault("pace aZ;", 1, 5);
+            fault("pace aa;", 1, 5);
+            fault("pace az;", 1, 5);
+            fault("pace a[;", 5, 5);
+            fault("pace A;", 1, 5);
+            fault("pace Z;", 1, 5);
             fault("pace let az be 1 in 1 end;", 1, 9);
             fault("pace let aZ be 1 in 1 end;", 1, 9);
             right("pace1;takes2;");
@@ -213,6 +220,11 @@ public final class EdgesOfTextsTest {
             says("if not 1=1 or 1=1 then 4 else 5 end", 4);
             says("if not 1=2 and 1=2 then 4 else 5 end", 5);
             says("if not not 1=1 then 4 else 5 end", 4);
+            says("if not 1=1 then 4 else 5 end", 5);
+            says("if not 1=2 then 4 else 5 end", 4);
+            says("if not not not 1=2 then 4 else 5 end", 4);
+            says("if 1=2 or not 1=2 then 4 else 5 end", 4);
+            says("if 1=1 and not 1=1 then 4 else 5 end", 5);
             int[][] sides = {{1, 2}, {2, 2}, {3, 2}};
             String[] signs = {"<", "<=", ">", ">=", "=", "#"};
             String holds = "YYNNNYNYNYYNNNYYNY";
@@ -269,6 +281,8 @@ public final class EdgesOfTextsTest {
             Edges.due("two", x.bunch(0, 3), 2);
             x.person(0, false, false, 1);
             Edges.due("not who is with it", x.bunch(0, 3), 2);
+            x.by(Edges.tell(x, "pace here;"));
+            Edges.due("but here: who is with it", x.bunch(0, 3), 1);
         });
         Edges.edge("ahead (KIND of the other side), stood (the NERVES of the PEOPLE there together), bucket (how many of"
             + " them have one), back (1: it CAME from there; 0), way (its number) in takes", () -> {
@@ -293,6 +307,12 @@ public final class EdgesOfTextsTest {
             x.stray(1, 11);
             x.by(Edges.tell(x, "takes way-9;"));
             Edges.due("the highest way", x.takes(0, 15), 6);
+            x.person(4, true, false, 5);
+            x.person(0, true, true, 5);
+            x.by(Edges.tell(x, "takes bucket;"));
+            Edges.due("one of two has a BUCKET", x.takes(0, 15), 1);
+            x.by(Edges.tell(x, "takes stood;"));
+            Edges.due("both NERVES", x.takes(0, 15), 4);
             ElevenBullocks z = Edges.ruled(Edges.lanes(3), "takes if back=1 then 3 else 10 end;");
             z.stray(1, 0);
             Edges.due("it CAME from none", z.takes(0, 0), 10);

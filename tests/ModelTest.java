@@ -267,6 +267,18 @@ public final class ModelTest {
         }
     }
 
+    /** Near the last minute, with as much harm as can be: where few drawn runs would come to. */
+    private void goLate() {
+        int at = stretchNum();
+        int n = r.nextBoolean() ? 24 : 1 + r.nextInt(24);
+        same("stray(" + n + ", " + at + ")", x.stray(n, at), m.stray(n, at));
+        for (int i = 0; i < 16; i++) {
+            same("minute(60)", x.minute(60), m.minute(60));
+        }
+        int more = 30 + r.nextInt(10);
+        same("minute(" + more + ")", x.minute(more), m.minute(more));
+    }
+
     private void go() {
         int most = 2 + r.nextInt(12);
         for (int i = 0; i < most; i++) {
@@ -285,6 +297,9 @@ public final class ModelTest {
         }
         if (r.nextInt(4) > 0) {
             same("image()", x.image(), m.image());
+        }
+        if (r.nextInt(5) == 0) {
+            goLate();
         }
         while (calls < 512 - 60 && wrong == 0) {
             change();
