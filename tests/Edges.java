@@ -7,7 +7,7 @@ import java.util.function.Supplier;
 
 /**
  * What the tests of edges share: each edge is named by the document's own words, and a refused call is made on one
- * of two twins, so that all that can be seen of both must be the same behind it.
+ * of two twins, so that what is shown of both must be the same behind it.
  */
 final class Edges {
     static final int NONE = -1;
@@ -98,7 +98,7 @@ final class Edges {
         return a.length + " lines instead of " + b.length;
     }
 
-    /** All that can be seen of one object, in some 350 calls, which spend it: they take steps back, and go back. */
+    /** What one object shows, part by part, in some 350 calls, which spend it: they take steps back, and go back. */
     static String all(ElevenBullocks x) {
         StringBuilder all = new StringBuilder();
         abouts(x, all);
