@@ -160,6 +160,15 @@ public final class EdgesOfAnswersTest {
             ElevenBullocks y = strayed(Edges.ruled(Edges.row(0, 0, 2), "takes if here=1 then 0 else 5 end;"), 0);
             Edges.due("somebody more is here, too", y.stopped(0, 0), 2);
             Edges.due("but not for what is asked then", y.canCome(0), 7);
+            // It must go on to 2 and back to come by the road: back it goes, unless somebody is at 1 and at 2.
+            ElevenBullocks z = Edges.stretches(0, 0, 0, 2);
+            z.way(1, 2, false);
+            z.way(0, 1, false);
+            z.way(1, 3, false);
+            Edges.ruled(strayed(z, 0), "takes if way=0 then if back=0 then 10 else if place=1 or here*stood>0 then 0"
+                + " else 10 end end else 5 end;");
+            Edges.due("on both sides of one WAY", z.stopped(0, 1), 6);
+            Edges.due("on both sides, without NERVE", z.stopped(0, 0), NONE);
         });
         Edges.edge("such that it can come to no road: the fewest; of like ones the lowest set (bits); none.", () -> {
             ElevenBullocks x = strayed(Edges.row(0, 0, 0, 2), 0);

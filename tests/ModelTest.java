@@ -89,7 +89,10 @@ public final class ModelTest {
     }
 
     private void text(boolean spoilt) {
-        String text = Texts.drawn(r, spoilt);
+        tell(Texts.drawn(r, spoilt));
+    }
+
+    private void tell(String text) {
         same("end(0)", x.end(0), m.end(0));
         int[] w = Texts.words(text);
         for (int i = 0; i < w.length; i += 5) {
@@ -279,6 +282,50 @@ public final class ModelTest {
         same("minute(" + more + ")", x.minute(more), m.minute(more));
     }
 
+    /** A law that has a word of its own for each way, side and stand of people, so that no two can be mixed up. */
+    private String lawOfAll() {
+        return "takes let m be way * " + r.nextInt(13) + " + place * " + r.nextInt(13) + " + back * " + r.nextInt(13)
+            + " + here * " + r.nextInt(13) + " + stood * " + r.nextInt(13) + " in m - m / 13 * 13 - " + r.nextInt(8)
+            + " end;";
+    }
+
+    /** As much land as there can be, and all that is asked about where a bunch can come to. */
+    private void goFar() {
+        for (int i = 0; i < 12; i++) {
+            stretch();
+        }
+        for (int i = 0; i < 40; i++) {
+            way();
+        }
+        for (int i = 0; i < 6; i++) {
+            person();
+        }
+        tell(lawOfAll());
+        same("by(0)", n(x.by(0)), n(m.by(0)));
+        while (calls < 512 - 60 && wrong == 0) {
+            int at = stretchNum();
+            same("stray(3, " + at + ")", x.stray(3, at), m.stray(3, at));
+            same("minute(1)", x.minute(1), m.minute(1));
+            for (int i = 0; i < 12; i++) {
+                askFar(bunchNum());
+            }
+            int way = wayNum();
+            boolean open = r.nextBoolean();
+            same("gate(" + way + ", " + open + ")", n(x.gate(way, open)), n(m.gate(way, open)));
+        }
+    }
+
+    private void askFar(int b) {
+        int n = r.nextInt(10);
+        int moves = 1 + r.nextInt(4);
+        int to = stretchNum();
+        same("canCome(" + b + ")", x.canCome(b), m.canCome(b));
+        same("stopped(" + b + ", " + n + ")", x.stopped(b, n), m.stopped(b, n));
+        same("home(" + b + ")", x.home(b), m.home(b));
+        same("where(" + b + ", " + moves + ", " + to + ", true)", x.where(b, moves, to, true),
+            m.where(b, moves, to, true));
+    }
+
     private void go() {
         int most = 2 + r.nextInt(12);
         for (int i = 0; i < most; i++) {
@@ -316,7 +363,12 @@ public final class ModelTest {
         int from = args.length > 0 ? Integer.parseInt(args[0]) : 0;
         int runs = args.length > 1 ? Integer.parseInt(args[1]) : 3000;
         for (int run = from; run < from + runs && wrong == 0; run++) {
-            new ModelTest(run).go();
+            ModelTest test = new ModelTest(run);
+            if (run % 100 == 99) {
+                test.goFar();
+            } else {
+                test.go();
+            }
         }
         System.out.println(wrong == 0 ? "all answers are as the model's" : wrong + " answers are not the model's");
         if (wrong != 0) {

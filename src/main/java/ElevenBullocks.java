@@ -553,7 +553,7 @@ public final class ElevenBullocks {
     private static int nextSet(int set) {
         int lowest = set & -set;
         int higher = set + lowest;
-        return lowest == 0 ? Integer.MAX_VALUE : higher | ((set ^ higher) / lowest) >>> 2;
+        return lowest == 0 ? 1 << MOST_WAYS : higher | ((set ^ higher) / lowest) >>> 2;
     }
 
     private Script scriptOf(int text) {
