@@ -124,7 +124,8 @@ public final class ReadmeTest {
             remove(out);
         }
         test.wrong.forEach(System.out::println);
-        System.out.println(test.wrong.isEmpty() ? test.shown + " calls of README.md answer what it says" : "README.md is wrong");
+        String all = test.shown + " calls of README.md answer what it says";
+        System.out.println(test.wrong.isEmpty() ? all : "README.md is wrong");
         if (!test.wrong.isEmpty()) {
             System.exit(1);
         }
